@@ -1,0 +1,355 @@
+import java.util.Map;
+import java.util.Random;
+import java.util.TreeMap;
+
+/** Runs of random calls, each with the model's answer; the seeds are told, so that each run can be had again. */
+public final class ModelTest {
+    private static final int RUNS = 600;
+    private static final int STEPS = 250;
+    private static final String[] WORDS = {"an", "b", "cee", "r", "p1", "12345678", "~"};
+    private static final String[] MUST_BE_SEEN = {
+        "1 fine", "1 420", "other 400", "3 fine", "3 400", "3 401", "3 420", "3 437", "3 438", "3 442", "3 486", "3 508",
+        "4 fine", "4 401", "4 420", "4 437", "4 441", "8 fine", "8 400", "8 403", "8 437", "8 441", "8 508",
+        "9 fine", "9 400", "9 403", "9 437", "9 441", "9 508", "send", "data indication", "channel data to peer",
+        "channel data from peer", "wrong fingerprint", "allocated already"
+    };
+
+    private static final Map<String, Integer> seen = new TreeMap<>();
+    private static Random random;
+    private static RelayHouse x;
+    private static Model m;
+    private static int run;
+    private static long nonce;
+    private static String realm;
+    private static Map<String, String> known;
+
+    public static void main(String[] args) {
+        for (run = 1; run <= RUNS; run++) {
+            random = new Random(run);
+            x = new RelayHouse();
+            m = new Model(seen);
+            nonce = 0;
+            realm = "r";
+            known = new TreeMap<>();
+            for (int i = 0; i < STEPS; i++) {
+                move();
+            }
+        }
+        for (String one : MUST_BE_SEEN) {
+            Checks.due("seen: " + one, seen.containsKey(one) ? 1 : 0, 1);
+        }
+        System.out.println(seen);
+        Checks.close();
+    }
+
+    private static void both(String call, int got, int want) {
+        Checks.due("run " + run + ": " + call, got, want);
+    }
+
+    private static boolean chance(int percent) {
+        return random.nextInt(100) < percent;
+    }
+
+    private static String anyWord() {
+        return WORDS[random.nextInt(WORDS.length)];
+    }
+
+    // One client of one USER comes so often that it meets the limits of its ALLOCATION.
+    private static boolean isLonely() {
+        return run % 4 == 0;
+    }
+
+    private static int anyIp() {
+        return chance(95) ? 0x0a000000 + random.nextInt(run % 3 == 0 ? 24 : 6) : random.nextInt();
+    }
+
+    private static int anyPort() {
+        return chance(95) ? 1 + random.nextInt(run % 3 == 1 ? 12 : 3) : chance(60) ? random.nextInt(65536) : random.nextInt();
+    }
+
+    private static int clientIp() {
+        return 0x0b000000 + random.nextInt(isLonely() ? 1 : 2);
+    }
+
+    private static int clientPort() {
+        return 1 + random.nextInt(isLonely() ? 1 : run % 2 == 0 ? 2 : 6);
+    }
+
+    private static int anyNumber() {
+        return chance(90) ? 16384 + random.nextInt(run % 3 == 1 ? 12 : 4) : chance(50) ? 20479 + random.nextInt(2) : random.nextInt(65536);
+    }
+
+    private static void move() {
+        int dice = random.nextInt(100);
+        if (dice < 14) {
+            setting();
+        } else if (dice < 70) {
+            request();
+        } else if (dice < 78) {
+            raw();
+        } else if (dice < 84) {
+            channelData();
+            step();
+        } else if (dice < 92) {
+            raw();
+            fromPeer();
+        } else if (dice < 97) {
+            sendIndication();
+            step();
+        } else {
+            int n = chance(isLonely() ? 97 : 70) ? random.nextInt(320) : random.nextInt(10100) - 50;
+            both("tick(" + n + ")", x.tick(n), m.tick(n));
+        }
+        reports();
+    }
+
+    private static void setting() {
+        switch (random.nextInt(8)) {
+            case 0:
+            case 1:
+            case 2: {
+                String name = isLonely() ? "an" : anyWord();
+                String password = anyWord();
+                int got = x.user(Client.word(name), Client.word(password));
+                both("user", got, m.user(Client.word(name), Client.word(password)));
+                if (got != RelayHouse.NONE) {
+                    known.put(name, password);
+                }
+                break;
+            }
+            case 3: {
+                long name = chance(30) ? Client.word(isLonely() ? "an" : anyWord()) : random.nextLong();
+                long password = chance(70) ? Client.word(anyWord()) : random.nextInt(300);
+                both("user", x.user(name, password), m.user(name, password));
+                break;
+            }
+            case 4: {
+                String word = chance(70) ? realm : anyWord();
+                both("realm", x.realm(Client.word(word)), m.realm(Client.word(word)));
+                realm = word;
+                break;
+            }
+            case 5: {
+                nonce = chance(70) ? nonce : random.nextLong();
+                both("fresh", x.fresh(nonce), m.fresh(nonce));
+                break;
+            }
+            case 6: {
+                int n = chance(80) ? 2 + random.nextInt(7) : random.nextInt(12) - 2;
+                both("part(" + n + ")", x.part(n), m.part(n));
+                break;
+            }
+            default: {
+                int ip = anyIp();
+                int bits = chance(90) ? 28 + random.nextInt(6) : random.nextInt(40) - 4;
+                if (chance(15)) {
+                    both("forbid(" + ip + ", " + bits + ")", x.forbid(ip, bits), m.forbid(ip, bits));
+                }
+            }
+        }
+    }
+
+    private static void open(int type, int id) {
+        both("message(" + type + ")", x.message(type, 1, 2, id), m.message(type, 1, 2, id));
+    }
+
+    private static void number(int kind, int size, int v) {
+        both("number(" + kind + ", " + size + ")", x.number(kind, size, v), m.number(kind, size, v));
+    }
+
+    private static void text(int kind, long a, long b) {
+        both("text(" + kind + ")", x.text(kind, a, b), m.text(kind, a, b));
+    }
+
+    private static void nonce(int kind, long v) {
+        both("nonce(" + kind + ")", x.nonce(kind, v), m.nonce(kind, v));
+    }
+
+    private static void address(int kind, int ip, int port) {
+        both("address(" + kind + ")", x.address(kind, ip, port), m.address(kind, ip, port));
+    }
+
+    private static void finger() {
+        both("finger", x.finger(), m.finger());
+    }
+
+    private static void oddAttribute() {
+        int[] kinds = {6, 9, 10, 12, 13, 18, 19, 20, 21, 22, 25, 28, 32, 32808, 4660, 0, 32767, 32768, 65535};
+        int kind = kinds[random.nextInt(kinds.length)];
+        switch (random.nextInt(4)) {
+            case 0:
+                number(kind, random.nextInt(5), random.nextInt());
+                break;
+            case 1:
+                text(kind, random.nextLong() & random.nextLong(), chance(50) ? 0 : 7);
+                break;
+            case 2:
+                nonce(kind, random.nextLong() & 0x00ff_ffff_ffff_ffffL);
+                break;
+            default:
+                address(kind, anyIp(), anyPort());
+        }
+    }
+
+    private static void own(int method) {
+        if (method == 3 && chance(95)) {
+            number(25, 4, chance(95) ? 17 << 24 | random.nextInt(9) : 6 << 24);
+        }
+        if ((method == 3 || method == 4) && chance(50)) {
+            number(13, 4, chance(80) ? random.nextInt(5000) : chance(50) ? 0 : random.nextInt());
+        }
+        if (method == 8) {
+            int n = run % 3 == 0 ? random.nextInt(20) : chance(90) ? 1 + random.nextInt(2) : 0;
+            for (int i = 0; i < n; i++) {
+                address(18, anyIp(), anyPort());
+            }
+        }
+        if (method == 9) {
+            if (chance(95)) {
+                number(12, 4, anyNumber() << 16 | random.nextInt(3));
+            }
+            if (chance(95)) {
+                address(18, anyIp(), anyPort());
+            }
+        }
+    }
+
+    private static void request() {
+        int[] methods = {1, 2, 3, 3, 3, 3, 4, 4, 8, 8, 8, 9, 9, 9, 9};
+        int method = methods[random.nextInt(methods.length)];
+        open(chance(97) ? method : random.nextInt(16384), random.nextInt(3));
+        own(method);
+        if (chance(8)) {
+            oddAttribute();
+        }
+        if (method != 1 || chance(10)) {
+            credentials();
+        }
+        if (chance(8)) {
+            oddAttribute();
+        }
+        if (chance(30)) {
+            finger();
+        }
+        if (chance(2)) {
+            oddAttribute();
+        }
+        if (chance(4)) {
+            alter();
+        }
+        step();
+    }
+
+    private static void credentials() {
+        String name = chance(95) && !known.isEmpty()
+                ? known.keySet().toArray(new String[0])[random.nextInt(known.size())] : anyWord();
+        String password = chance(97) && known.containsKey(name) ? known.get(name) : anyWord();
+        if (chance(98)) {
+            text(6, Client.word(name), 0);
+        }
+        if (chance(98)) {
+            text(20, Client.word(chance(97) ? realm : anyWord()), 0);
+        }
+        if (chance(98)) {
+            nonce(21, chance(97) ? nonce : random.nextLong());
+        }
+        if (chance(97)) {
+            both("sign", x.sign(Client.word(name), Client.word(password)), m.sign(Client.word(name), Client.word(password)));
+        } else {
+            long word = random.nextLong();
+            both("sign", x.sign(word, 'a'), m.sign(word, 'a'));
+        }
+    }
+
+    private static void alter() {
+        int i = chance(90) ? random.nextInt(x.count(3) + 1) : random.nextInt();
+        int mask = chance(90) ? 1 << random.nextInt(8) : random.nextInt(600) - 200;
+        both("alter(" + i + ", " + mask + ")", x.alter(i, mask), m.alter(i, mask));
+    }
+
+    private static void raw() {
+        if (chance(40)) {
+            both("end(0)", x.end(0), m.end(0));
+        }
+        int n = chance(95) ? random.nextInt(3) : random.nextInt(25);
+        for (int i = 0; i < n; i++) {
+            int a = random.nextInt();
+            both("feed", x.feed(a, i, ~a, run, -1), m.feed(a, i, ~a, run, -1));
+        }
+        int end = random.nextInt(x.count(3) + 3) - 1;
+        both("end(" + end + ")", x.end(end), m.end(end));
+        if (chance(20)) {
+            oddAttribute();
+        }
+    }
+
+    private static void channelData() {
+        int size = chance(95) ? random.nextInt(17) : random.nextInt(65536);
+        int number = anyNumber();
+        int word = number << 16 | size;
+        both("end(0)", x.end(0), m.end(0));
+        both("feed", x.feed(word, 1, 2, 3, 4), m.feed(word, 1, 2, 3, 4));
+        int end = chance(90) ? Math.min(20, 4 + size + random.nextInt(4)) : random.nextInt(21);
+        both("end(" + end + ")", x.end(end), m.end(end));
+    }
+
+    private static void sendIndication() {
+        open(6 | 16, random.nextInt());
+        if (chance(97)) {
+            address(18, anyIp(), chance(80) ? anyPort() : 0);
+        }
+        if (chance(97)) {
+            text(19, random.nextLong(), random.nextLong());
+        }
+        if (chance(5)) {
+            oddAttribute();
+        }
+        if (chance(20)) {
+            finger();
+        }
+    }
+
+    private static void step() {
+        int ip = clientIp();
+        int port = chance(99) ? clientPort() : random.nextInt(70000) - 2000;
+        both("datagram(" + ip + ", " + port + ")", x.datagram(ip, port), m.datagram(ip, port));
+    }
+
+    private static void fromPeer() {
+        int relayed = chance(95) ? 49152 + random.nextInt(4) : random.nextInt();
+        int ip = anyIp();
+        int port = anyPort();
+        both("peer(" + relayed + ", " + ip + ", " + port + ")", x.peer(relayed, ip, port), m.peer(relayed, ip, port));
+    }
+
+    private static void reports() {
+        for (int what = -1; what <= 10; what++) {
+            both("count(" + what + ")", x.count(what), m.count(what));
+        }
+        for (int what = -1; what <= 7; what++) {
+            both("sent(" + what + ")", x.sent(what), m.sent(what));
+        }
+        for (int i = -1; i <= x.sent(0); i++) {
+            both("octet(" + i + ")", x.octet(i), m.octet(i));
+        }
+        for (int i = -1; i <= x.count(3); i++) {
+            both("tape(" + i + ")", x.tape(i), m.tape(i));
+        }
+        for (int i = -1; i <= x.sent(6); i++) {
+            for (int what = -1; what <= 7; what++) {
+                both("attribute(" + i + ", " + what + ")", x.attribute(i, what), m.attribute(i, what));
+            }
+        }
+        for (int k = -1; k <= 8; k++) {
+            for (int what = -1; what <= 7; what++) {
+                both("allocation(" + k + ", " + what + ")", x.allocation(k, what), m.allocation(k, what));
+            }
+            for (int i = 0; i < 24; i++) {
+                both("permission(" + k + ")", x.permission(k, 0x0a000000 + i), m.permission(k, 0x0a000000 + i));
+            }
+            for (int i = 0; i < 12; i++) {
+                both("channel(" + k + ")", x.channel(k, 16384 + i), m.channel(k, 16384 + i));
+            }
+        }
+    }
+}
