@@ -297,7 +297,7 @@ public final class RelayHouse {
     public int count(int what) {
         switch (what) {
             case 0:
-                return (int) (book.now() & Integer.MAX_VALUE);
+                return (int) (book.now() & 0x7fffffff);
             case 1:
                 return users.size();
             case 2:
@@ -978,14 +978,14 @@ public final class RelayHouse {
 
     /** An ALLOCATION with its PERMISSIONS and CHANNELS. */
     private static final class Allocation {
-        private boolean there;
-        private int clientIp;
-        private int clientPort;
-        private int user;
-        private int relayed;
+        boolean there;
+        int clientIp;
+        int clientPort;
+        int user;
+        int relayed;
+        long till;
         private long idTop;
         private int idRest;
-        private long till;
         private final int[] permittedIps = new int[MOST_PERMISSIONS];
         private final long[] permittedTill = new long[MOST_PERMISSIONS];
         private int permissions;
@@ -1556,7 +1556,7 @@ public final class RelayHouse {
 
         private long lifetime() {
             int i = letter.find(LIFETIME);
-            long asked = i == NONE ? SHORTEST_LIFE : letter.valueOf(i);
+            long asked = i == NONE ? SHORTEST_LIFE : tape.numberAt(letter.startOf(i), 4);
             return Math.max(SHORTEST_LIFE, Math.min(LONGEST_LIFE, asked));
         }
 

@@ -180,7 +180,8 @@ public final class AllocationTest {
         Checks.due("FORBIDDEN ahead of 508", c.permit(5, 11, 12, 13, 14, 15, 16, 17, 18, 19, 20, 21, 22, 23, 24, 25), 403);
         c.x.forbid(3, 32);
         Checks.due("one that there is stays", c.x.permission(0, 3), 100);
-        Checks.due("but isn't renewed", c.permit(3), 403);
+        Checks.due("but isn't renewed", c.permit(6, 3), 403);
+        Checks.due("a request ahead does not count", c.permit(6), 0);
     }
 
     private static void permissionLimit() {
@@ -287,7 +288,10 @@ public final class AllocationTest {
         Checks.due("no CHANNELS", c.x.allocation(0, 6), 0);
         Checks.due("no PERMISSION", c.x.permission(0, 2), 0);
         Checks.due("no CHANNEL", c.x.channel(0, 16384), 0);
-        c.x.tick(590);
+        c.x.tick(1);
+        Checks.due("nor later", c.x.allocation(0, 5), 0);
+        Checks.due("nor later", c.x.allocation(0, 6), 0);
+        c.x.tick(589);
         c.bind(16384, 1, 1);
         c.x.tick(10);
         Checks.due("over with it", c.x.channel(0, 16384), 0);
