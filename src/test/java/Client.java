@@ -128,11 +128,29 @@ final class Client {
 
     static void write(RelayHouse x, int... bytes) {
         x.end(0);
+        append(x, bytes);
+    }
+
+    /** Bytes behind the TAPE; there must be room for whole twenties. */
+    static void append(RelayHouse x, int... bytes) {
+        int before = x.count(3);
         int[] padded = Arrays.copyOf(bytes, (bytes.length + 19) / 20 * 20);
         for (int i = 0; i < padded.length; i += 20) {
             x.feed(quad(padded, i), quad(padded, i + 4), quad(padded, i + 8), quad(padded, i + 12), quad(padded, i + 16));
         }
-        x.end(bytes.length);
+        x.end(before + bytes.length);
+    }
+
+    /** An ATTRIBUTE of any size and bytes; LENGTH is as due when the desk has added another one behind it. */
+    Client raw(int kind, int size, int... bytes) {
+        int[] all = new int[4 + (size + 3) / 4 * 4];
+        all[0] = kind >> 8;
+        all[1] = kind & 255;
+        all[2] = size >> 8;
+        all[3] = size & 255;
+        System.arraycopy(bytes, 0, all, 4, bytes.length);
+        append(x, all);
+        return this;
     }
 
     private static int quad(int[] b, int i) {
