@@ -11,6 +11,7 @@ final class DatagramEdges {
 
     static void run() {
         mostBytes();
+        whichItIs();
         upperBits();
         length();
         cookie();
@@ -22,6 +23,7 @@ final class DatagramEdges {
         otherAddresses();
         wordSizes();
         otherSizes();
+        sizesWithoutUse();
         dataOfAnySize();
         whatIsNotLookedAt();
         integritySize();
@@ -52,6 +54,20 @@ final class DatagramEdges {
         }
         Edges.due("a signed MESSAGE of 400", c.sign().go(), 0);
         Edges.holds("its answer is signed", c.isSealed(3));
+    }
+
+    private static void whichItIs() {
+        Edges.term(19, "A DATAGRAM from a client: the first of these that it is:");
+        Client c = bound(16384);
+        c.write(64, 0, 0, 16, 33, 18, 164, 66, 0, 0, 0, 0, 0, 0, 0, 0, 0, 0, 0, 0);
+        Edges.due("CHANNEL DATA that goes on as a MESSAGE would", c.x.datagram(c.ip, c.port), 1);
+        Edges.due("to the peer", c.x.sent(1), 55);
+        Edges.due("bytes", c.x.sent(0), 16);
+        c.write(63, 255, 0, 0, 33, 18, 164, 66, 0, 0, 0, 0, 0, 0, 0, 0, 0, 0, 0, 0);
+        Edges.due("a MESSAGE of the highest TYPE, an error", c.x.datagram(c.ip, c.port), 0);
+        c.write(62, 239, 0, 0, 33, 18, 164, 66, 0, 0, 0, 0, 0, 0, 0, 0, 0, 0, 0, 0);
+        Edges.due("a request of the highest TYPE", c.x.datagram(c.ip, c.port), 1);
+        Edges.due("is answered", c.x.sent(1), c.ip);
     }
 
     /** A Binding request with an ATTRIBUTE of 3 bytes and one of none, altered at one byte. */
@@ -126,8 +142,8 @@ final class DatagramEdges {
     }
 
     private static void padding() {
-        Edges.term(19, "then ATTRIBUTES: kind (2), size (2), so many bytes, and up to three more, whatever they are, to a "
-                + "multiple of four.");
+        Edges.term(19, "then ATTRIBUTES: kind (2), size (2), so many bytes, and up to three more, whatever they are, "
+                + "to a multiple of four.");
         for (int size = 0; size <= 9; size++) {
             int[] bytes = new int[(size + 3) / 4 * 4];
             Arrays.fill(bytes, 255);
@@ -139,8 +155,9 @@ final class DatagramEdges {
     }
 
     private static void methodsAndClasses() {
-        Edges.term(19, "TYPE: METHOD (12 bits) and CLASS (0 request, 1 indication, 2 success, 3 error): from the lowest bit on: "
-                + "four of METHOD, the lower one of CLASS, three of METHOD, the upper one of CLASS, five of METHOD.");
+        Edges.term(19, "TYPE: METHOD (12 bits) and CLASS (0 request, 1 indication, 2 success, 3 error): from the "
+                + "lowest bit on: four of METHOD, the lower one of CLASS, three of METHOD, the upper one of CLASS, "
+                + "five of METHOD.");
         int[][] types = {{0, 0}, {1, 1}, {2, 2}, {4, 4}, {8, 8}, {15, 15}, {32, 16}, {64, 32}, {128, 64}, {224, 112},
             {512, 128}, {1024, 256}, {2048, 512}, {4096, 1024}, {8192, 2048}, {15872, 3968}, {16111, 4095}};
         for (int[] one : types) {
@@ -214,14 +231,16 @@ final class DatagramEdges {
     // ---- sizes
 
     private static void addresses() {
-        Edges.term(19, "An ADDRESS in an ATTRIBUTE has 8 bytes: 0, 1, PORT exclusive or 8466, IP exclusive or 554869826.");
+        Edges.term(19, "An ADDRESS in an ATTRIBUTE has 8 bytes: 0, 1, PORT exclusive or 8466, IP exclusive or "
+                + "554869826.");
         for (int ip : new int[] {0, 1, -1, Edges.LEAST, Edges.MOST, 554869826}) {
             for (int port : new int[] {1, 8466, 65535}) {
                 Client c = new Client(new RelayHouse(), ip, port);
                 c.open(1, 1).go();
-                int hidden = ip ^ 554869826;
                 Edges.due("MAPPED's PORT", c.x.octet(26) << 8 | c.x.octet(27), port ^ 8466);
-                Edges.due("MAPPED's IP", c.x.octet(28) << 24 | c.x.octet(29) << 16 | c.x.octet(30) << 8 | c.x.octet(31), hidden);
+                for (int i = 0; i < 4; i++) {
+                    Edges.due("MAPPED's IP, byte " + i, c.x.octet(28 + i), (ip ^ 554869826) >>> 24 - 8 * i & 255);
+                }
                 Edges.due("its first bytes", c.x.octet(24) << 8 | c.x.octet(25), 1);
                 Client d = Client.known();
                 d.allocate(1);
@@ -234,7 +253,8 @@ final class DatagramEdges {
     }
 
     private static void otherAddresses() {
-        Edges.term(19, "(The first byte is not looked at; another second one, or another size: the ATTRIBUTE counts as not there.)");
+        Edges.term(19, "(The first byte is not looked at; another second one, or another size: the ATTRIBUTE counts "
+                + "as not there.)");
         int[][] firsts = {{0, 1, 0}, {1, 1, 0}, {255, 1, 0}, {0, 0, 400}, {0, 2, 400}, {0, 255, 400}, {1, 0, 400}};
         for (int[] one : firsts) {
             Client c = allocated();
@@ -310,8 +330,11 @@ final class DatagramEdges {
         Edges.term(19, "So do others of another size than told.");
         for (int size : new int[] {0, 1, 3, 4, 5, 8}) {
             transportOf(size);
-            lifetimeOf(size);
+        }
+        Edges.term(19, "12 CHANNEL (4: number, 0, 0), 13 LIFETIME (4), 18 PEER (ADDRESS)");
+        for (int size : new int[] {0, 1, 3, 4, 5, 8}) {
             channelOf(size);
+            lifetimeOf(size);
         }
     }
 
@@ -339,6 +362,18 @@ final class DatagramEdges {
         c.open(Client.BIND, 1).raw(12, size, Arrays.copyOf(new int[] {64}, size)).peer(5, 5);
         Edges.due("CHANNEL of " + size, c.signedGo(), size == 4 ? 0 : 400);
         Edges.due("CHANNELS then", c.x.allocation(0, 6), size == 4 ? 1 : 0);
+    }
+
+    // The server has no use for these, but they aren't STRANGE.
+    private static void sizesWithoutUse() {
+        Edges.term(19, "9 ERROR (4: 0, 0, hundreds, rest), 10 UNKNOWN (2 for each kind)");
+        for (int kind : new int[] {9, 10, 22, 32}) {
+            for (int size : new int[] {0, 1, 2, 3, 4, 5, 7, 8, 9}) {
+                Client c = allocated();
+                c.open(Client.REFRESH, 1).raw(kind, size, new int[size]);
+                Edges.due("kind " + kind + " of " + size, c.signedGo(), 0);
+            }
+        }
     }
 
     private static void dataOfAnySize() {
@@ -387,7 +422,8 @@ final class DatagramEdges {
         }
         for (int rest : new int[] {0, 1, 32768, 65535}) {
             Client c = allocated();
-            Edges.due("CHANNEL and " + rest, c.open(Client.BIND, 1).number(12, 4, 16384 << 16 | rest).peer(5, 5).signedGo(), 0);
+            c.open(Client.BIND, 1).number(12, 4, 16384 << 16 | rest).peer(5, 5);
+            Edges.due("CHANNEL and " + rest, c.signedGo(), 0);
             Edges.due("its number", c.x.channel(0, 16384), 600);
         }
     }

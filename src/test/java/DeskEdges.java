@@ -26,6 +26,7 @@ final class DeskEdges {
         address();
         signAtAll();
         signWords();
+        keys();
         finger();
         tape();
         alterAtAll();
@@ -141,7 +142,8 @@ final class DeskEdges {
     // ---- promise 4
 
     private static void messageAtAll() {
-        Edges.promise(4, "The TAPE becomes a MESSAGE of a TYPE (0 .. 16383) without ATTRIBUTES, its ID by three numbers: 20.");
+        Edges.promise(4, "The TAPE becomes a MESSAGE of a TYPE (0 .. 16383) without ATTRIBUTES, its ID by three "
+                + "numbers: 20.");
         for (int size : new int[] {0, 19, 20, 400}) {
             RelayHouse x = Edges.withTape(size);
             Edges.due("TYPE 0 behind " + size, x.message(0, 0, 0, 0), 20);
@@ -168,9 +170,9 @@ final class DeskEdges {
     // ---- promise 5, and what the others have of it
 
     private static void numberAtAll() {
-        Edges.promise(5, "An ATTRIBUTE of a kind (0 .. 65535) with the lowest size bytes (0 .. 4) of a number, the highest of them "
-                + "first, comes behind the TAPE, bytes 0 up to a multiple of four; LENGTH (bytes 2, 3) is what is behind 20 "
-                + "then: how many it has.");
+        Edges.promise(5, "An ATTRIBUTE of a kind (0 .. 65535) with the lowest size bytes (0 .. 4) of a number, the "
+                + "highest of them first, comes behind the TAPE, bytes 0 up to a multiple of four; LENGTH (bytes 2, "
+                + "3) is what is behind 20 then: how many it has.");
         RelayHouse x = new RelayHouse();
         Edges.fill(x, 40);
         x.end(20);
@@ -252,7 +254,8 @@ final class DeskEdges {
         Edges.due("nine", x.text(4, -1, 9), 76);
         Edges.tape("nine", x, 60, 0, 4, 0, 9, 255, 255, 255, 255, 255, 255, 255, 255, 9, 0, 0, 0, NONE);
         Edges.due("sixteen", x.text(5, Long.MAX_VALUE, -2), 96);
-        Edges.tape("sixteen", x, 76, 0, 5, 0, 16, 127, 255, 255, 255, 255, 255, 255, 255, 255, 255, 255, 255, 255, 255, 255, 254, NONE);
+        Edges.tape("sixteen", x, 76, 0, 5, 0, 16, 127, 255, 255, 255, 255, 255, 255, 255,
+                255, 255, 255, 255, 255, 255, 255, 254, NONE);
         for (int kind : new int[] {-1, 65536, LEAST, MOST}) {
             Edges.refused("kind " + kind, y -> y.text(kind, 1, 1));
         }
@@ -308,14 +311,12 @@ final class DeskEdges {
     // ---- promises 9 and 10
 
     private static void signAtAll() {
-        Edges.promise(9, "Likewise INTEGRITY (of all that is there then) with the KEY of a user and password (such as USERS may "
-                + "have, else NONE) and the REALM.");
+        Edges.promise(9, "Likewise INTEGRITY (of all that is there then) with the KEY of a user and password (such "
+                + "as USERS may have, else NONE) and the REALM.");
         // SHA-256 needs a block more behind 55 of 64.
         for (int n : new int[] {20, 52, 56, 60, 64, 116, 120, 124, 128, 244, 248, 364}) {
             seal(n, "u", "r", "w");
         }
-        seal(20, "!", "!", "!");
-        seal(364, "~~~~~~~~", "~~~~~~~~", "~~~~~~~~");
         RelayHouse x = new RelayHouse();
         x.message(1, 1, 2, 3);
         x.sign('a', 'b');
@@ -359,6 +360,15 @@ final class DeskEdges {
         byte[] ahead = Client.tapeOf(x);
         Edges.due("bytes 0 between", x.sign(0x6100000000620000L, 0x0063000000000000L), 56);
         holdsSeal(x, ahead, "ab", "r", "c");
+    }
+
+    private static void keys() {
+        Edges.term(9, "KEY: SHA-256 of user, \":\", REALM, \":\", password.");
+        seal(20, "!", "!", "!");
+        seal(20, "12345678", "!", "!");
+        seal(20, "!", "12345678", "!");
+        seal(20, "!", "!", "12345678");
+        seal(364, "~~~~~~~~", "~~~~~~~~", "~~~~~~~~");
     }
 
     private static void finger() {

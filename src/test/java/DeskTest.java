@@ -162,8 +162,17 @@ public final class DeskTest {
         Checks.due("sign", x.sign(Client.word(name), Client.word(password)), before + 36);
         bytes("sign", x, before, 0, 28, 0, 32);
         Checks.due("LENGTH", x.tape(2) << 8 | x.tape(3), before + 36 - 20);
-        byte[] got = Arrays.copyOfRange(Client.tapeOf(x), before + 4, before + 36);
-        Checks.due("INTEGRITY behind " + before, Arrays.equals(got, Client.mac(ahead, name, realm, password)) ? 1 : 0, 1);
+        byte[] due = Client.mac(ahead, name, realm, password);
+        for (int i = 0; i < 32; i++) {
+            Checks.due("INTEGRITY behind " + before + ", byte " + i, x.tape(before + 4 + i), due[i] & 255);
+        }
+    }
+
+    private static void fill(RelayHouse x, int n) {
+        for (int i = 0; i < n; i += 20) {
+            x.feed(i * 97, -i, ~i, i << 24, n);
+        }
+        x.end(n);
     }
 
     private static void sign() {
@@ -175,12 +184,12 @@ public final class DeskTest {
         seal(x, "a", "realm.88", "12345678");
         // Every length of text that SHA-256 may end with.
         for (int n = 20; n <= 364; n += 4) {
-            x.message(1, n, n, n);
-            for (int i = 20; i < n; i += 4) {
-                x.number(i * 97, 0, 0);
-            }
-            seal(x, "u", "realm.88", "w");
+            RelayHouse y = new RelayHouse();
+            y.realm(Client.word("realm.88"));
+            fill(y, n);
+            seal(y, "u", "realm.88", "w");
         }
+        x = new RelayHouse();
         x.message(3, 1, 2, 3);
         long[] bad = {0, 32, 127, ':', 255, Client.word("a b"), Client.word("a:b"), -1L, 0x6100000000000001L};
         for (long word : bad) {
@@ -197,16 +206,15 @@ public final class DeskTest {
     }
 
     private static void finger() {
-        RelayHouse x = new RelayHouse();
-        Checks.due("finger on nothing", x.finger(), NONE);
-        x.message(1, 1, 2, 3);
+        Checks.due("finger on nothing", new RelayHouse().finger(), NONE);
         for (int n = 28; n <= 400; n += 12) {
+            RelayHouse x = new RelayHouse();
+            fill(x, n - 8);
             Checks.due("finger", x.finger(), n);
             bytes("finger", x, n - 8, 128, 40, 0, 4);
             int got = x.tape(n - 4) << 24 | x.tape(n - 3) << 16 | x.tape(n - 2) << 8 | x.tape(n - 1);
             Checks.due("FINGERPRINT at " + n, got, Client.crc(Arrays.copyOf(Client.tapeOf(x), n - 8)));
             Checks.due("LENGTH", x.tape(2) << 8 | x.tape(3), n - 20);
-            x.number(n, 0, 0);
         }
     }
 

@@ -65,7 +65,8 @@ final class Edges {
     }
 
     private static String sectionOf(int number) {
-        return part("## Promise " + number + ":", number == PROMISES ? "## Not promised" : "## Promise " + (number + 1) + ":");
+        String next = number == PROMISES ? "## Not promised" : "## Promise " + (number + 1) + ":";
+        return part("## Promise " + number + ":", next);
     }
 
     private static String part(String from, String to) {

@@ -50,7 +50,8 @@ final class KeeperEdges {
     }
 
     private static void users() {
-        Edges.promise(13, "A USER, or another password for one of that name (its ALLOCATIONS stay): how many there are.");
+        Edges.promise(13, "A USER, or another password for one of that name (its ALLOCATIONS stay): how many there "
+                + "are.");
         RelayHouse x = new RelayHouse();
         for (int n = 1; n <= 8; n++) {
             Edges.due("USER " + n, x.user('A' + n, 'p'), n);
@@ -82,8 +83,8 @@ final class KeeperEdges {
     }
 
     private static void words() {
-        Edges.term(13, "Up to 8 USERS: name and password of 1 .. 8 bytes (longs, the bytes that aren't 0, the highest first; "
-                + "no byte but 33 .. 126, and no \":\"; one is another one's if these bytes are)");
+        Edges.term(13, "Up to 8 USERS: name and password of 1 .. 8 bytes (longs, the bytes that aren't 0, the "
+                + "highest first; no byte but 33 .. 126, and no \":\"; one is another one's if these bytes are)");
         for (String word : Edges.GOOD_WORDS) {
             Edges.due("named " + word, allocateAs(word, "p", "r"), 0);
             Edges.due("with password " + word, allocateAs("n", word, "r"), 0);
@@ -98,6 +99,23 @@ final class KeeperEdges {
         Client c = new Client(new RelayHouse(), 1, 1).as("ab", "cd");
         c.x.user(0x0000610000006200L, 0x6300000000000064L);
         Edges.due("bytes 0 are none when it comes", c.allocate(1), 0);
+        int[][] others = {{'a'}, {'b'}, {'a', 'c'}, {'b', 'b'}, {'b', 'a'}, {0, 0},
+            {0, 'a', 'b'}, {'a', 0, 'b'}, {'a', 'b', 0}};
+        for (int[] name : others) {
+            Edges.due("others that come", told(name, 'a', 'b'), 401);
+            Edges.due("others that come as REALM", told(new int[] {'a', 'b'}, name), 401);
+        }
+        Edges.due("these that come", told(new int[] {'a', 'b'}, 'a', 'b'), 0);
+    }
+
+    /** An Allocate by USER "ab" in REALM "ab", who tells other bytes. */
+    private static int told(int[] name, int... realm) {
+        Client c = new Client(new RelayHouse(), 1, 1).as("ab", "p");
+        c.x.user(Client.word("ab"), 'p');
+        c.x.realm(Client.word("ab"));
+        c.open(Client.ALLOCATE, 1).number(25, 4, Client.UDP).raw(6, name.length, name).raw(20, realm.length, realm);
+        c.x.nonce(21, 0);
+        return c.sign().go();
     }
 
     private static int allocateAs(String name, String password, String realm) {

@@ -30,8 +30,8 @@ final class RelayEdges {
     }
 
     private static void channelData() {
-        Edges.term(19, "CHANNEL DATA: if the client has an ALLOCATION with that CHANNEL, and a PERMISSION for its peer: so many bytes "
-                + "are sent to the peer, from the ALLOCATION's PORT; else nothing.");
+        Edges.term(19, "CHANNEL DATA: if the client has an ALLOCATION with that CHANNEL, and a PERMISSION for its "
+                + "peer: so many bytes are sent to the peer, from the ALLOCATION's PORT; else nothing.");
         Edges.idle("with all", x -> channelData(Edges.guest(x), 16384), 1);
         Edges.idle("without ALLOCATION", x -> channelData(new Client(x, Client.IP, Client.PORT + 1), 16384), 0);
         Edges.idle("without that CHANNEL", x -> channelData(Edges.guest(x), 16385), 0);
@@ -107,8 +107,8 @@ final class RelayEdges {
     }
 
     private static void steps() {
-        Edges.term(19, "What is refused (NONE) changes nothing; each step (datagram(), peer()) uses up the TAPE, and SENT is what it "
-                + "sent.");
+        Edges.term(19, "What is refused (NONE) changes nothing; each step (datagram(), peer()) uses up the TAPE, and "
+                + "SENT is what it sent.");
         for (int n : new int[] {0, 1, 20, 400}) {
             RelayHouse x = Edges.withTape(n);
             Edges.due("datagram of " + n, x.datagram(1, 1), 0);
@@ -158,9 +158,9 @@ final class RelayEdges {
     }
 
     private static void fromPeersOrNot() {
-        Edges.term(20, "A DATAGRAM from a peer to a PORT: if an ALLOCATION has it, and there is a PERMISSION for the IP: to its client, "
-                + "from the SERVER's PORT: CHANNEL DATA, if that peer's IP and PORT have a CHANNEL (no bytes more); else a Data "
-                + "indication (METHOD 7): PEER, DATA;");
+        Edges.term(20, "A DATAGRAM from a peer to a PORT: if an ALLOCATION has it, and there is a PERMISSION for the "
+                + "IP: to its client, from the SERVER's PORT: CHANNEL DATA, if that peer's IP and PORT have a "
+                + "CHANNEL (no bytes more); else a Data indication (METHOD 7): PEER, DATA;");
         Client c = DatagramEdges.bound(20479);
         Edges.due("that IP and PORT", c.x.peer(49152, 55, 7000), 1);
         Edges.sent("CHANNEL DATA", c.x, 79, 255, 0, 0);

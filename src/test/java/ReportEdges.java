@@ -32,9 +32,9 @@ final class ReportEdges {
     // ---- promise 21
 
     private static void sentAtAll() {
-        Edges.promise(21, "Of SENT (what the latest datagram() or peer() sent) what 0 how many bytes, 1 the IP to which (as an int), 2 "
-                + "the PORT to which, 3 the PORT from which, 4 its METHOD, 5 its CLASS (4, 5 NONE of what is no MESSAGE), 6 how "
-                + "many ATTRIBUTES.");
+        Edges.promise(21, "Of SENT (what the latest datagram() or peer() sent) what 0 how many bytes, 1 the IP to "
+                + "which (as an int), 2 the PORT to which, 3 the PORT from which, 4 its METHOD, 5 its CLASS (4, 5 "
+                + "NONE of what is no MESSAGE), 6 how many ATTRIBUTES.");
         for (int ip : new int[] {0, -1, LEAST, MOST}) {
             RelayHouse x = new RelayHouse();
             x.message(1, 1, 2, 3);
@@ -54,6 +54,11 @@ final class ReportEdges {
         row(c.x, 20, 55, 7000, 49152, 0, 0, 0);
         relay(c, 0, 0, 0, 1, 33, 18, 164, 66, 0, 0, 0, 0, 0, 0, 0, 0, 0, 0, 0, 0);
         row(c.x, 20, 55, 7000, 49152, NONE, NONE, 0);
+        relay(c, 0, 1, 0, 12, 33, 18, 164, 66, 0, 0, 0, 0, 0, 0, 0, 0, 0, 0, 0, 0, 0, 9, 0, 0, 0, 9, 0, 5, 1, 2, 3, 4);
+        row(c.x, 32, 55, 7000, 49152, NONE, NONE, 0);
+        Edges.due("nor the whole one ahead of what isn't", c.x.attribute(0, 0), NONE);
+        relay(c, 0, 1, 0, 12, 33, 18, 164, 66, 0, 0, 0, 0, 0, 0, 0, 0, 0, 0, 0, 0, 0, 9, 0, 0, 0, 9, 0, 4, 1, 2, 3, 4);
+        row(c.x, 32, 55, 7000, 49152, 1, 0, 2);
         c.x.end(0);
         c.x.peer(49152, 55, 7000);
         row(c.x, 4, c.ip, c.port, 3478, NONE, NONE, 0);
@@ -126,8 +131,9 @@ final class ReportEdges {
     }
 
     private static void attributeAtAll() {
-        Edges.promise(23, "Of ATTRIBUTE i of SENT what 0 its kind, 1 its size, 2 where its bytes begin, 3 the number of its first four "
-                + "bytes (fewer, if it has fewer), 4 the PORT, 5 the IP of an ADDRESS, 6 an ERROR's number.");
+        Edges.promise(23, "Of ATTRIBUTE i of SENT what 0 its kind, 1 its size, 2 where its bytes begin, 3 the number "
+                + "of its first four bytes (fewer, if it has fewer), 4 the PORT, 5 the IP of an ADDRESS, 6 an "
+                + "ERROR's number.");
         Client c = Client.known();
         c.allocate(1);
         c.permit(-1);
@@ -188,7 +194,8 @@ final class ReportEdges {
                 Edges.due("no ADDRESS, no ERROR: attribute(" + i + ", " + what + ")", c.x.attribute(i, what), 0);
             }
         }
-        relay(c, 1, 17, 0, 16, 33, 18, 164, 66, 0, 0, 0, 0, 0, 0, 0, 0, 0, 0, 0, 0, 0, 9, 0, 4, 0, 0, 0, 0, 0, 9, 0, 4, 9, 9, 6, 99);
+        relay(c, 1, 17, 0, 16, 33, 18, 164, 66, 0, 0, 0, 0, 0, 0, 0, 0, 0, 0, 0, 0,
+                0, 9, 0, 4, 0, 0, 0, 0, 0, 9, 0, 4, 9, 9, 6, 99);
         Edges.due("ERROR 0", c.x.attribute(0, 6), 0);
         Edges.due("ERROR 699", c.x.attribute(1, 6), 699);
     }
@@ -196,8 +203,8 @@ final class ReportEdges {
     // ---- promise 24
 
     private static void allocationAtAll() {
-        Edges.promise(24, "Of ALLOCATION k what 0 its client's IP, 1 PORT, 2 the USER's number, 3 its PORT, 4 seconds left, 5 "
-                + "PERMISSIONS, 6 CHANNELS that are there.");
+        Edges.promise(24, "Of ALLOCATION k what 0 its client's IP, 1 PORT, 2 the USER's number, 3 its PORT, 4 "
+                + "seconds left, 5 PERMISSIONS, 6 CHANNELS that are there.");
         RelayHouse x = new RelayHouse();
         for (int n = 0; n < 8; n++) {
             x.user('a' + n, 'p');
@@ -313,9 +320,9 @@ final class ReportEdges {
     }
 
     private static void countAtAll() {
-        Edges.promise(27, "0 TIME (its lower 31 bits), 1 USERS, 2 ALLOCATIONS that are there, 3 bytes of the TAPE, 4 DATAGRAMS sent, 5 "
-                + "Data indications among them, 6 those relayed to peers, 7 those from peers to clients, 8 ERRORS sent, 9 "
-                + "datagram()s and peer()s by which nothing was SENT.");
+        Edges.promise(27, "0 TIME (its lower 31 bits), 1 USERS, 2 ALLOCATIONS that are there, 3 bytes of the TAPE, 4 "
+                + "DATAGRAMS sent, 5 Data indications among them, 6 those relayed to peers, 7 those from peers to "
+                + "clients, 8 ERRORS sent, 9 datagram()s and peer()s by which nothing was SENT.");
         RelayHouse x = new RelayHouse();
         counts(x, 0, 0, 0, 0, 0, 0, 0, 0, 0, 0, NONE);
         Client c = DatagramEdges.bound(16384);

@@ -22,15 +22,19 @@ final class ServerEdges {
         noneIsFree();
         lifetimes();
         sameId();
+        toldByAllocate();
+        eightAllocations();
         lowest();
         refresh();
         refreshByZero();
         createPermission();
         sixteenPermissions();
         permissionTime();
+        eachHasItsOwn();
         channelBind();
         eightChannels();
         channelTime();
+        behindTheOthers();
         unknown();
         bytesUpToFour();
         answers();
@@ -70,8 +74,9 @@ final class ServerEdges {
     }
 
     private static void nothing() {
-        Edges.term(19, "No MESSAGE; a FINGERPRINT that is wrong, or not last; a success, an error; an indication but Send (METHOD "
-                + "6); a Send without PEER, or DATA, with something STRANGE, without ALLOCATION, without PERMISSION: nothing.");
+        Edges.term(19, "No MESSAGE; a FINGERPRINT that is wrong, or not last; a success, an error; an indication but "
+                + "Send (METHOD 6); a Send without PEER, or DATA, with something STRANGE, without ALLOCATION, "
+                + "without PERMISSION: nothing.");
         Edges.idle("an empty TAPE", x -> silent(Edges.guest(x), 0), 0);
         Edges.idle("no MESSAGE", x -> silent(Edges.guest(x), 1), 0);
         Edges.idle("a wrong FINGERPRINT", x -> silent(Edges.guest(x), 2), 0);
@@ -167,9 +172,9 @@ final class ServerEdges {
 
     // Each has all the faults of those behind it.
     private static void order() {
-        Edges.term(19, "METHODS 3 Allocate, 4 Refresh, 8 CreatePermission, 9 ChannelBind, in this order: 401 without INTEGRITY; 400 "
-                + "without USERNAME, REALM, NONCE; 438 another NONCE; 401 an unknown USER, another REALM, a wrong INTEGRITY; 420; "
-                + "then (signed from here on) as told.");
+        Edges.term(19, "METHODS 3 Allocate, 4 Refresh, 8 CreatePermission, 9 ChannelBind, in this order: 401 without "
+                + "INTEGRITY; 400 without USERNAME, REALM, NONCE; 438 another NONCE; 401 an unknown USER, another "
+                + "REALM, a wrong INTEGRITY; 420; then (signed from here on) as told.");
         for (int method : SIGNED) {
             faulty(method, 0, 401, 3);
             faulty(method, 1, 400, 1);
@@ -230,7 +235,8 @@ final class ServerEdges {
     private static void otherMethods() {
         Edges.term(19, "Other METHODS: 400.");
         for (int method : new int[] {0, 2, 5, 6, 7, 10, 11, 15}) {
-            Edges.idle("METHOD " + method, x -> Edges.guest(x).open(method, 1).number(4660, 0, 0).number(13, 4, 0).signedGo(), 400);
+            Edges.idle("METHOD " + method,
+                    x -> Edges.guest(x).open(method, 1).number(4660, 0, 0).number(13, 4, 0).signedGo(), 400);
             Client c = Edges.guest(Edges.busy());
             c.open(method, 1).signedGo();
             Edges.due("ERROR alone", c.x.sent(6), 1);
@@ -240,8 +246,8 @@ final class ServerEdges {
     // ---- Allocate
 
     private static void allocate() {
-        Edges.term(19, "if the client has an ALLOCATION: that of the same ID: as if made just now, but nothing changes (its LIFETIME "
-                + "is what is left); else 437. 400 without TRANSPORT; 442 not 17;");
+        Edges.term(19, "if the client has an ALLOCATION: that of the same ID: as if made just now, but nothing "
+                + "changes (its LIFETIME is what is left); else 437. 400 without TRANSPORT; 442 not 17;");
         Edges.idle("another ID, no TRANSPORT", x -> Edges.guest(x).open(3, 2).signedGo(), 437);
         Edges.idle("no TRANSPORT, no part", ServerEdges::partless, x -> stranger(x).open(3, 2).signedGo(), 400);
         for (int number : new int[] {0, 16, 18, 255}) {
@@ -339,7 +345,8 @@ final class ServerEdges {
     }
 
     private static void sameId() {
-        Edges.term(19, "that of the same ID: as if made just now, but nothing changes (its LIFETIME is what is left); else 437.");
+        Edges.term(19, "that of the same ID: as if made just now, but nothing changes (its LIFETIME is what is "
+                + "left); else 437.");
         Edges.idle("the same ID", x -> Edges.guest(x).open(3, 1).number(13, 4, 3600).signedGo(), 0);
         Edges.idle("TRANSPORT 6", x -> Edges.guest(x).open(3, 1).number(25, 4, 6 << 24).signedGo(), 0);
         Edges.idle("no part", ServerEdges::partless, x -> Edges.guest(x).open(3, 1).signedGo(), 0);
@@ -363,9 +370,40 @@ final class ServerEdges {
         return c.signedGo();
     }
 
+    private static void toldByAllocate() {
+        Edges.term(19, "RELAYED (SERVER's IP), LIFETIME, MAPPED.");
+        for (int ip : new int[] {0, -1, LEAST, MOST}) {
+            for (int port : new int[] {1, 65535}) {
+                Client c = new Client(Client.known().x, ip, port);
+                Edges.due("Allocate", c.allocate(1), 0);
+                Edges.due("the kinds", c.x.attribute(0, 0) << 16 | c.x.attribute(1, 0) << 8 | c.x.attribute(2, 0),
+                        22 << 16 | 13 << 8 | 32);
+                Edges.due("RELAYED's IP", c.x.attribute(0, 5), (int) 3232235777L);
+                Edges.due("RELAYED's PORT", c.x.attribute(0, 4), 49152);
+                Edges.due("MAPPED's IP", c.x.attribute(2, 5), ip);
+                Edges.due("MAPPED's PORT", c.x.attribute(2, 4), port);
+                Edges.holds("INTEGRITY is the last", c.x.sent(6) == 4 && c.isSealed(3));
+            }
+        }
+    }
+
+    private static void eightAllocations() {
+        Edges.term(19, "ALLOCATIONS 0 .. 7: a client (IP, PORT), a USER, a PORT, the ID that made it");
+        Client c = crowded(8);
+        for (int k = 0; k <= 7; k++) {
+            Edges.due("PORT of client " + k, c.x.allocation(k, 1), k + 1);
+            Edges.due("USER of " + k, c.x.allocation(k, 2), k == 7 ? 1 : 0);
+            Edges.due("PORT of " + k, c.x.allocation(k, 3), 49152 + k);
+            Edges.due("the ID of " + k, member(c, k + 1, k + 1).allocate(1), 0);
+            Edges.due("another ID", member(c, k + 1, k + 1).allocate(2), 437);
+        }
+        Edges.due("none at -1", c.x.allocation(-1, 1), NONE);
+        Edges.due("none at 8", c.x.allocation(8, 1), NONE);
+    }
+
     private static void lowest() {
-        Edges.term(19, "What is over is gone; a new ALLOCATION is the lowest that is free, its PORT the lowest from 49152 on that none "
-                + "has;");
+        Edges.term(19, "What is over is gone; a new ALLOCATION is the lowest that is free, its PORT the lowest from "
+                + "49152 on that none has;");
         for (int gone = 1; gone <= 8; gone++) {
             Client c = crowded(8);
             member(c, gone, gone).refresh(0);
@@ -480,7 +518,8 @@ final class ServerEdges {
     }
 
     private static void sixteenPermissions() {
-        Edges.term(19, "508 they would be more than 16: nothing is done; each IP told has a PERMISSION for 300 from now on.");
+        Edges.term(19, "508 they would be more than 16: nothing is done; each IP told has a PERMISSION for 300 from "
+                + "now on.");
         for (int n = 1; n <= 22; n++) {
             Client c = Client.known();
             c.allocate(1);
@@ -532,11 +571,30 @@ final class ServerEdges {
         Edges.due("not for one more", c.permit(3), 508);
     }
 
+    private static void eachHasItsOwn() {
+        Edges.term(19, "up to 16 PERMISSIONS (an IP, till when), up to 8 CHANNELS (number, peer's IP and PORT, till "
+                + "when).");
+        Client c = Client.known();
+        c.allocate(1);
+        c.at(1).allocate(1);
+        for (int i = 0; i < 8; i++) {
+            Edges.due("CHANNEL " + i, c.bind(20472 + i, i, i), 0);
+        }
+        Edges.due("PERMISSIONS 9 to 16", c.permit(range(8, 8)), 0);
+        Edges.due("the other has none", c.x.allocation(1, 5) + c.x.allocation(1, 6), 0);
+        Edges.due("a 17th", c.permit(16), 508);
+        Edges.due("a 9th", c.bind(16384, 0, 9), 508);
+        Edges.due("the other has room", c.at(1).permit(range(100, 16)), 0);
+        Edges.due("for both", c.at(1).bind(20479, 100, 1), 0);
+        Edges.due("PERMISSIONS of both", c.x.allocation(0, 5) << 8 | c.x.allocation(1, 5), 16 << 8 | 16);
+        Edges.due("CHANNELS of both", c.x.allocation(0, 6) << 8 | c.x.allocation(1, 6), 8 << 8 | 1);
+    }
+
     // ---- ChannelBind
 
     private static void channelBind() {
-        Edges.term(19, "ChannelBind: 437, 441; 400 without CHANNEL, PEER, a number not 16384 .. 20479, a number that another peer has, "
-                + "a peer that has another number; 403;");
+        Edges.term(19, "ChannelBind: 437, 441; 400 without CHANNEL, PEER, a number not 16384 .. 20479, a number that "
+                + "another peer has, a peer that has another number; 403;");
         Edges.idle("without ALLOCATION", x -> stranger(x).bind(16383, 1, 1), 437);
         Edges.idle("of another USER", x -> Edges.guest(x).as("b", "q2").bind(16383, 1, 1), 441);
         Edges.idle("without CHANNEL", x -> Edges.guest(x).open(9, 1).peer(0x0b000000, 1).signedGo(), 400);
@@ -622,6 +680,64 @@ final class ServerEdges {
         Edges.due("when one is over", full.bind(16400, 9, 9), 0);
     }
 
+    // Of four, each choice of those that are renewed, and stay when the others are over.
+    private static void behindTheOthers() {
+        Edges.term(19, "new PERMISSIONS, CHANNELS come behind the others.");
+        for (int renewed = 0; renewed < 16; renewed++) {
+            Client c = Client.known();
+            c.allocate(1, 3600);
+            for (int i = 0; i < 4; i++) {
+                c.bind(16384 + i, 10 + i, 100 + i);
+            }
+            c.x.tick(200);
+            for (int i = 0; i < 4; i++) {
+                if ((renewed >> i & 1) == 1) {
+                    c.bind(16384 + i, 10 + i, 100 + i);
+                }
+            }
+            Edges.due("none is new", c.x.allocation(0, 5) << 8 | c.x.allocation(0, 6), 4 << 8 | 4);
+            c.x.tick(100);
+            permissionsLeft(c, renewed, 200);
+            c.x.tick(1);
+            permissionsLeft(c, renewed, 199);
+            c.x.tick(299);
+            channelsLeft(c, renewed, 200);
+            c.x.tick(1);
+            channelsLeft(c, renewed, 199);
+            int n = c.x.allocation(0, 6);
+            Edges.due("a new one", c.bind(16400, 40, 400), 0);
+            Edges.due("is one more", c.x.allocation(0, 6), n + 1);
+            Edges.due("its seconds", c.x.channel(0, 16400), 600);
+            for (int i = 0; i < 4; i++) {
+                leadsToPeer(c, i, (renewed >> i & 1) == 1);
+            }
+        }
+    }
+
+    private static void permissionsLeft(Client c, int which, int seconds) {
+        Edges.due("PERMISSIONS of " + which, c.x.allocation(0, 5), Integer.bitCount(which));
+        for (int i = 0; i < 4; i++) {
+            Edges.due("PERMISSION " + i + " of " + which, c.x.permission(0, 10 + i), (which >> i & 1) * seconds);
+        }
+    }
+
+    private static void channelsLeft(Client c, int which, int seconds) {
+        Edges.due("CHANNELS of " + which, c.x.allocation(0, 6), Integer.bitCount(which));
+        for (int i = 0; i < 4; i++) {
+            Edges.due("CHANNEL " + i + " of " + which, c.x.channel(0, 16384 + i), (which >> i & 1) * seconds);
+        }
+    }
+
+    private static void leadsToPeer(Client c, int i, boolean is) {
+        c.permit(10 + i);
+        c.write(64, i, 0, 0);
+        Edges.due("CHANNEL DATA by " + i, c.x.datagram(c.ip, c.port), is ? 1 : 0);
+        Edges.due("to IP", c.x.sent(1), is ? 10 + i : 0);
+        Edges.due("to PORT", c.x.sent(2), is ? 100 + i : 0);
+        c.x.peer(49152, 10 + i, 100 + i);
+        Edges.due("from the peer of " + i, c.x.sent(0), is ? 4 : 36);
+    }
+
     // ---- answers
 
     private static void unknown() {
@@ -699,6 +815,22 @@ final class ServerEdges {
                 Edges.due("ID's byte " + i, x.octet(8 + i), (i / 4 == 1 ? ~id : id) >>> 24 - i % 4 * 8 & 255);
             }
         }
+        Edges.term(19, "with 401 and 438 REALM, NONCE behind ERROR;");
+        for (long nonce : new long[] {0, 1, -1, Long.MIN_VALUE}) {
+            Client c = Client.known();
+            c.x.fresh(nonce);
+            c.nonce = ~nonce;
+            Edges.due("438", c.allocate(1), 438);
+            holdsRealmAndNonce(c.x, nonce);
+            Edges.due("401", c.open(3, 1).go(), 401);
+            holdsRealmAndNonce(c.x, nonce);
+        }
+        Edges.term(19, "if signed INTEGRITY with that USER's KEY;");
+        Client two = crowded(8);
+        Edges.due("the other USER's 437", member(two, 8, 8).allocate(2), 437);
+        Edges.holds("with its KEY", member(two, 8, 8).isSealed(1));
+        Edges.due("441", member(two, 8, 1).refresh(0), 441);
+        Edges.holds("with the asking one's KEY", member(two, 8, 1).isSealed(1));
         Edges.term(19, "at last a FINGERPRINT, if what came had one.");
         for (int method : new int[] {1, 2, 3, 4, 8, 9}) {
             Client c = Client.known();
@@ -708,6 +840,15 @@ final class ServerEdges {
             c.go();
             Edges.due("METHOD " + method, c.x.sent(6), without + 1);
             Edges.holds("it is right, and last", c.isFingered(without));
+        }
+    }
+
+    private static void holdsRealmAndNonce(RelayHouse x, long nonce) {
+        Edges.due("ATTRIBUTES", x.sent(6), 3);
+        Edges.due("REALM", x.attribute(1, 0) << 16 | x.attribute(1, 1) << 8 | x.attribute(1, 3), 20 << 16 | 1 << 8 | 'r');
+        Edges.due("NONCE", x.attribute(2, 0) << 8 | x.attribute(2, 1), 21 << 8 | 8);
+        for (int i = 0; i < 8; i++) {
+            Edges.due("NONCE's byte " + i, x.octet(x.attribute(2, 2) + i), nonce >>> 56 - 8 * i & 255);
         }
     }
 }
