@@ -358,7 +358,8 @@ public final class AccessTest {
             Client c = Client.known();
             c.open(3, 1).number(25, 4, Client.UDP).credentials().sign();
             c.x.alter(i, 128);
-            boolean head = i >= 20 && (i < 24 || i >= 28 && i < 32 || i >= 36 && i < 40 || i >= 44 && i < 48 || i >= 56 && i < 60);
+            boolean head = i >= 20 && (i < 24 || i >= 28 && i < 32 || i >= 36 && i < 40 || i >= 44 && i < 48
+                    || i >= 56 && i < 60);
             int got = c.go();
             if (!head) {
                 boolean nonce = i >= 48 && i < 56;

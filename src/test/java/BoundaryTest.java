@@ -1,6 +1,6 @@
 import java.io.IOException;
 
-/** Each sentence of the document that names a boundary case, with a test of its own. */
+/** Each sentence of the terms and of the promises, with a test that names it. */
 public final class BoundaryTest {
     public static void main(String[] args) throws IOException {
         Edges.readDocument();
@@ -10,6 +10,7 @@ public final class BoundaryTest {
         ServerEdges.run();
         RelayEdges.run();
         ReportEdges.run();
+        TermEdges.run();
         Edges.close();
         Checks.close();
     }

@@ -312,7 +312,7 @@ final class DatagramEdges {
     }
 
     private static void wordSizes() {
-        Edges.term(19, "6 USERNAME (1 .. 8)");
+        Edges.term(19, "KINDS with their sizes: 6 USERNAME (1 .. 8)");
         for (int size : new int[] {0, 1, 7, 8, 9, 12, 16}) {
             Edges.due("USERNAME of " + size, sized(6, size), size == 0 || size > 8 ? 400 : size == 8 ? 0 : 401);
         }

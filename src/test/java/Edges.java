@@ -28,6 +28,7 @@ final class Edges {
 
     private static final Path DOCUMENT = Path.of("../shared/DOC.md");
     private static final Map<Integer, List<String>> named = new TreeMap<>();
+    private static final List<String> namedTerms = new ArrayList<>();
     private static final List<List<Look>> deskLooks = deskLooks();
     private static final List<List<Look>> serverLooks = serverLooks();
     private static String document = "";
@@ -54,7 +55,8 @@ final class Edges {
 
     /** What is checked from here on: a sentence of the terms, which a promise uses. */
     static void term(int number, String sentence) {
-        name(number, sentence, part("## What it is", "## Promise 1:"));
+        name(number, sentence, terms());
+        namedTerms.add(sentence);
     }
 
     private static void name(int number, String sentence, String where) {
@@ -75,19 +77,34 @@ final class Edges {
         return start < 0 || end < start ? "" : document.substring(start, end);
     }
 
-    /** Each sentence of each promise has been named. */
+    /** What stands ahead of the promises, but for the face, which FaceTest holds to. */
+    private static String terms() {
+        return part("## What it is", "## Promise 1:").replaceAll("(?s)## The public face.*?(?=## Terms)", "");
+    }
+
+    /** Each sentence of the terms and of each promise has been named. */
     static void close() {
         for (int number = 1; number <= PROMISES; number++) {
-            List<String> sentences = new ArrayList<>(named.getOrDefault(number, List.of()));
-            sentences.sort(Comparator.comparingInt(String::length).reversed());
+            List<String> sentences = named.getOrDefault(number, List.of());
             heading = "promise " + number + ": ";
             holds("is named", !sentences.isEmpty());
-            String left = sectionOf(number).replaceAll("## [^\n]*|`[^\n]*?`:", "");
-            for (String sentence : sentences) {
-                left = left.replace(sentence, "");
-            }
-            holds("no test names: " + left.strip(), left.isBlank());
+            allNamed(sectionOf(number).replaceAll("## [^\n]*|`[^\n]*?`:", ""), sentences);
         }
+        heading = "the terms: ";
+        String marks = "## [^\n]*|==== I+\\.|```(text)?";
+        allNamed(terms().replaceAll(marks, ""), namedTerms);
+    }
+
+    private static void allNamed(String text, List<String> sentences) {
+        List<String> longestFirst = new ArrayList<>(sentences);
+        longestFirst.sort(Comparator.comparingInt(String::length).reversed());
+        String left = text;
+        for (String sentence : longestFirst) {
+            left = left.replace(sentence, "");
+        }
+        // Signs between two parts of a sentence that are named each for itself.
+        left = left.replaceAll("[,;:]\\s", " ").strip();
+        holds("no test names: " + left, left.isEmpty());
     }
 
     // ---- the checks

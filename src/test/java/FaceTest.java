@@ -1,12 +1,18 @@
+import java.io.IOException;
 import java.lang.reflect.Constructor;
 import java.lang.reflect.Field;
 import java.lang.reflect.Method;
 import java.lang.reflect.Modifier;
+import java.nio.file.Files;
+import java.nio.file.Path;
 import java.util.Set;
 import java.util.TreeSet;
+import java.util.regex.Matcher;
+import java.util.regex.Pattern;
 
 /** The public face is the document's, and nothing else can be seen. */
 public final class FaceTest {
+    private static final Path DOCUMENT = Path.of("../shared/DOC.md");
     private static final String[] FACE = {
         "feed(int,int,int,int,int)", "end(int)", "message(int,int,int,int)", "number(int,int,int)",
         "text(int,long,long)", "nonce(int,long)", "address(int,int,int)", "sign(long,long)", "finger()",
@@ -15,7 +21,8 @@ public final class FaceTest {
         "attribute(int,int)", "allocation(int,int)", "permission(int,int)", "channel(int,int)", "count(int)"
     };
 
-    public static void main(String[] args) {
+    public static void main(String[] args) throws IOException {
+        Checks.due("the document's lines", told().equals(new TreeSet<>(Set.of(FACE))) ? 1 : 0, 1);
         Checks.due("NONE", RelayHouse.NONE, -1);
         Checks.due("final", Modifier.isFinal(RelayHouse.class.getModifiers()) ? 1 : 0, 1);
         Set<String> seen = new TreeSet<>();
@@ -39,5 +46,21 @@ public final class FaceTest {
         Checks.due("constructors", made.length, 1);
         Checks.due("its parameters", made[0].getParameterCount(), 0);
         Checks.close();
+    }
+
+    /** The methods of the face as the document writes them, without the parameters' names. */
+    private static Set<String> told() throws IOException {
+        if (!Files.isReadable(DOCUMENT)) {
+            System.out.println(DOCUMENT + " is not here: the face is not looked up");
+            return new TreeSet<>(Set.of(FACE));
+        }
+        Set<String> told = new TreeSet<>();
+        for (String line : Files.readAllLines(DOCUMENT)) {
+            Matcher method = Pattern.compile(" {4}public int (\\w+)\\(([^)]*)\\);").matcher(line);
+            if (method.matches()) {
+                told.add(method.group(1) + "(" + method.group(2).replaceAll(" \\w+(,|$) ?", "$1") + ")");
+            }
+        }
+        return told;
     }
 }

@@ -4,8 +4,11 @@ import java.util.TreeMap;
 
 /** Runs of random calls, each with the model's answer; the seeds are told, so that each run can be had again. */
 public final class ModelTest {
-    private static final int RUNS = 600;
-    private static final int STEPS = 250;
+    private static final int RUNS = 12000;
+    // For so many calls the document speaks of an object. No move makes more than the rest.
+    private static final int MOST_CALLS = 512;
+    private static final int LAST_MOVE = 440;
+    private static final int LOOKS_BEHIND_A_MOVE = 3;
     private static final String[] WORDS = {"an", "b", "cee", "r", "p1", "12345678", "~"};
     private static final String[] MUST_BE_SEEN = {
         "1 fine", "1 420", "other 400", "3 fine", "3 400", "3 401", "3 420", "3 437", "3 438", "3 442", "3 486", "3 508",
@@ -19,6 +22,7 @@ public final class ModelTest {
     private static RelayHouse x;
     private static Model m;
     private static int run;
+    private static int calls;
     private static long nonce;
     private static String realm;
     private static Map<String, String> known;
@@ -31,8 +35,14 @@ public final class ModelTest {
             nonce = 0;
             realm = "r";
             known = new TreeMap<>();
-            for (int i = 0; i < STEPS; i++) {
+            calls = 0;
+            begin();
+            while (calls < LAST_MOVE) {
                 move();
+            }
+            Checks.due("run " + run + ": room for looks", calls < MOST_CALLS ? 1 : 0, 1);
+            while (calls < MOST_CALLS) {
+                look();
             }
         }
         for (String one : MUST_BE_SEEN) {
@@ -43,6 +53,7 @@ public final class ModelTest {
     }
 
     private static void both(String call, int got, int want) {
+        calls++;
         Checks.due("run " + run + ": " + call, got, want);
     }
 
@@ -59,12 +70,48 @@ public final class ModelTest {
         return run % 4 == 0;
     }
 
+    // Clients of two USERS come from so many PORTS that none is free for some of them.
+    private static boolean isCrowded() {
+        return run % 5 == 1 && !isLonely();
+    }
+
+    // A run is short, so that most begin with what else would take many moves.
+    private static void begin() {
+        if (chance(90)) {
+            enter(anyName(), anyWord());
+        }
+        if (isCrowded()) {
+            enter("b", anyWord());
+            both("part(8)", x.part(8), m.part(8));
+        }
+        int first = isCrowded() ? 12 : random.nextInt(4);
+        for (int i = 0; i < first && !known.isEmpty(); i++) {
+            open(3, i);
+            number(25, 4, 17 << 24);
+            credentials();
+            step();
+        }
+    }
+
+    private static String anyName() {
+        return isLonely() ? "an" : isCrowded() ? WORDS[random.nextInt(2)] : anyWord();
+    }
+
+    private static void enter(String name, String password) {
+        int got = x.user(Client.word(name), Client.word(password));
+        both("user", got, m.user(Client.word(name), Client.word(password)));
+        if (got != RelayHouse.NONE) {
+            known.put(name, password);
+        }
+    }
+
     private static int anyIp() {
         return chance(95) ? 0x0a000000 + random.nextInt(run % 3 == 0 ? 24 : 6) : random.nextInt();
     }
 
     private static int anyPort() {
-        return chance(95) ? 1 + random.nextInt(run % 3 == 1 ? 12 : 3) : chance(60) ? random.nextInt(65536) : random.nextInt();
+        return chance(95) ? 1 + random.nextInt(run % 3 == 1 ? 12 : 3)
+                : chance(60) ? random.nextInt(65536) : random.nextInt();
     }
 
     private static int clientIp() {
@@ -72,11 +119,12 @@ public final class ModelTest {
     }
 
     private static int clientPort() {
-        return 1 + random.nextInt(isLonely() ? 1 : run % 2 == 0 ? 2 : 6);
+        return 1 + random.nextInt(isLonely() ? 1 : isCrowded() ? 12 : run % 2 == 0 ? 2 : 6);
     }
 
     private static int anyNumber() {
-        return chance(90) ? 16384 + random.nextInt(run % 3 == 1 ? 12 : 4) : chance(50) ? 20479 + random.nextInt(2) : random.nextInt(65536);
+        return chance(90) ? 16384 + random.nextInt(run % 3 == 1 ? 12 : 4)
+                : chance(50) ? 20479 + random.nextInt(2) : random.nextInt(65536);
     }
 
     private static void move() {
@@ -100,23 +148,18 @@ public final class ModelTest {
             int n = chance(isLonely() ? 97 : 70) ? random.nextInt(320) : random.nextInt(10100) - 50;
             both("tick(" + n + ")", x.tick(n), m.tick(n));
         }
-        reports();
+        for (int i = 0; i < LOOKS_BEHIND_A_MOVE; i++) {
+            look();
+        }
     }
 
     private static void setting() {
         switch (random.nextInt(8)) {
             case 0:
             case 1:
-            case 2: {
-                String name = isLonely() ? "an" : anyWord();
-                String password = anyWord();
-                int got = x.user(Client.word(name), Client.word(password));
-                both("user", got, m.user(Client.word(name), Client.word(password)));
-                if (got != RelayHouse.NONE) {
-                    known.put(name, password);
-                }
+            case 2:
+                enter(anyName(), anyWord());
                 break;
-            }
             case 3: {
                 long name = chance(30) ? Client.word(isLonely() ? "an" : anyWord()) : random.nextLong();
                 long password = chance(70) ? Client.word(anyWord()) : random.nextInt(300);
@@ -135,7 +178,7 @@ public final class ModelTest {
                 break;
             }
             case 6: {
-                int n = chance(80) ? 2 + random.nextInt(7) : random.nextInt(12) - 2;
+                int n = isCrowded() ? 8 : chance(80) ? 2 + random.nextInt(7) : random.nextInt(12) - 2;
                 both("part(" + n + ")", x.part(n), m.part(n));
                 break;
             }
@@ -216,7 +259,7 @@ public final class ModelTest {
 
     private static void request() {
         int[] methods = {1, 2, 3, 3, 3, 3, 4, 4, 8, 8, 8, 9, 9, 9, 9};
-        int method = methods[random.nextInt(methods.length)];
+        int method = isCrowded() && chance(60) ? 3 : methods[random.nextInt(methods.length)];
         open(chance(97) ? method : random.nextInt(16384), random.nextInt(3));
         own(method);
         if (chance(8)) {
@@ -262,7 +305,7 @@ public final class ModelTest {
     }
 
     private static void alter() {
-        int i = chance(90) ? random.nextInt(x.count(3) + 1) : random.nextInt();
+        int i = chance(90) ? random.nextInt(m.count(3) + 1) : random.nextInt();
         int mask = chance(90) ? 1 << random.nextInt(8) : random.nextInt(600) - 200;
         both("alter(" + i + ", " + mask + ")", x.alter(i, mask), m.alter(i, mask));
     }
@@ -276,7 +319,7 @@ public final class ModelTest {
             int a = random.nextInt();
             both("feed", x.feed(a, i, ~a, run, -1), m.feed(a, i, ~a, run, -1));
         }
-        int end = random.nextInt(x.count(3) + 3) - 1;
+        int end = random.nextInt(m.count(3) + 3) - 1;
         both("end(" + end + ")", x.end(end), m.end(end));
         if (chance(20)) {
             oddAttribute();
@@ -316,39 +359,49 @@ public final class ModelTest {
     }
 
     private static void fromPeer() {
-        int relayed = chance(95) ? 49152 + random.nextInt(4) : random.nextInt();
+        int relayed = chance(95) ? 49152 + random.nextInt(isLonely() ? 1 : 4) : random.nextInt();
         int ip = anyIp();
         int port = anyPort();
         both("peer(" + relayed + ", " + ip + ", " + port + ")", x.peer(relayed, ip, port), m.peer(relayed, ip, port));
     }
 
-    private static void reports() {
-        for (int what = -1; what <= 10; what++) {
-            both("count(" + what + ")", x.count(what), m.count(what));
-        }
-        for (int what = -1; what <= 7; what++) {
-            both("sent(" + what + ")", x.sent(what), m.sent(what));
-        }
-        for (int i = -1; i <= x.sent(0); i++) {
-            both("octet(" + i + ")", x.octet(i), m.octet(i));
-        }
-        for (int i = -1; i <= x.count(3); i++) {
-            both("tape(" + i + ")", x.tape(i), m.tape(i));
-        }
-        for (int i = -1; i <= x.sent(6); i++) {
-            for (int what = -1; what <= 7; what++) {
+    private static void look() {
+        int what = random.nextInt(10) - 1;
+        int k = random.nextInt(10) - 1;
+        switch (random.nextInt(8)) {
+            case 0:
+                what = random.nextInt(12) - 1;
+                both("count(" + what + ")", x.count(what), m.count(what));
+                break;
+            case 1:
+                both("sent(" + what + ")", x.sent(what), m.sent(what));
+                break;
+            case 2: {
+                int i = random.nextInt(m.sent(0) + 2) - 1;
+                both("octet(" + i + ")", x.octet(i), m.octet(i));
+                break;
+            }
+            case 3: {
+                int i = random.nextInt(m.count(3) + 2) - 1;
+                both("tape(" + i + ")", x.tape(i), m.tape(i));
+                break;
+            }
+            case 4: {
+                int i = random.nextInt(m.sent(6) + 2) - 1;
                 both("attribute(" + i + ", " + what + ")", x.attribute(i, what), m.attribute(i, what));
+                break;
             }
-        }
-        for (int k = -1; k <= 8; k++) {
-            for (int what = -1; what <= 7; what++) {
+            case 5:
                 both("allocation(" + k + ", " + what + ")", x.allocation(k, what), m.allocation(k, what));
+                break;
+            case 6: {
+                int ip = 0x0a000000 + random.nextInt(24);
+                both("permission(" + k + ", " + ip + ")", x.permission(k, ip), m.permission(k, ip));
+                break;
             }
-            for (int i = 0; i < 24; i++) {
-                both("permission(" + k + ")", x.permission(k, 0x0a000000 + i), m.permission(k, 0x0a000000 + i));
-            }
-            for (int i = 0; i < 12; i++) {
-                both("channel(" + k + ")", x.channel(k, 16384 + i), m.channel(k, 16384 + i));
+            default: {
+                int number = 16384 + random.nextInt(12);
+                both("channel(" + k + ", " + number + ")", x.channel(k, number), m.channel(k, number));
             }
         }
     }

@@ -257,7 +257,7 @@ final class RelayEdges {
     }
 
     private static void mostCalls() {
-        Edges.term(20, "An object is used for at most 512 calls after it has been made;");
+        Edges.term(20, "An object is used for at most 512 calls after it has been made; what later calls answer is free.");
         RelayHouse x = new RelayHouse();
         for (int i = 1; i <= 511; i++) {
             Edges.due("tick " + i, x.tick(10000), 0);

@@ -156,7 +156,7 @@ final class ServerEdges {
     }
 
     private static void binding() {
-        Edges.term(19, "METHOD 1 Binding: 420, if something is STRANGE; else MAPPED.");
+        Edges.term(19, "A request: METHOD 1 Binding: 420, if something is STRANGE; else MAPPED.");
         for (int kind : new int[] {0, 5, 7, 32767}) {
             Edges.idle("with kind " + kind, x -> Edges.guest(x).open(1, 1).number(kind, 0, 0).go(), 420);
         }
@@ -246,7 +246,7 @@ final class ServerEdges {
     // ---- Allocate
 
     private static void allocate() {
-        Edges.term(19, "if the client has an ALLOCATION: that of the same ID: as if made just now, but nothing "
+        Edges.term(19, "Allocate: if the client has an ALLOCATION: that of the same ID: as if made just now, but nothing "
                 + "changes (its LIFETIME is what is left); else 437. 400 without TRANSPORT; 442 not 17;");
         Edges.idle("another ID, no TRANSPORT", x -> Edges.guest(x).open(3, 2).signedGo(), 437);
         Edges.idle("no TRANSPORT, no part", ServerEdges::partless, x -> stranger(x).open(3, 2).signedGo(), 400);
