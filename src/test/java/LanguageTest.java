@@ -9,7 +9,7 @@ import java.util.TreeSet;
 import java.util.regex.Matcher;
 import java.util.regex.Pattern;
 
-/** Those rules of LANGUAGE.md that can be seen without reading: 1, 2, 5, 6, 11. */
+/** Those rules of LANGUAGE.md that can be seen without reading it all: 1, 2, 5, 6, 11. */
 public final class LanguageTest {
     private static final Pattern RULED_OUT = Pattern.compile(
             "\\b(throw|throws|try|catch|synchronized|assert|import|package|volatile|native)\\b|->|::|Exact\\(");
@@ -21,6 +21,7 @@ public final class LanguageTest {
         while (found.find()) {
             Checks.due("ruled out: " + found.group(), 1, 0);
         }
+        shortMethods(source.split("\n"));
         Set<String> face = new TreeSet<>();
         for (Method m : RelayHouse.class.getDeclaredMethods()) {
             face.add(m.getName());
@@ -42,5 +43,23 @@ public final class LanguageTest {
             Checks.due(one + " has some twenty fields at most", fields <= 20 ? 1 : 0, 1);
         }
         Checks.close();
+    }
+
+    // A method ends by the first brace that stands as far in as its head.
+    private static void shortMethods(String[] lines) {
+        Pattern head = Pattern.compile("( {4}| {8})(?! )[\\w<>\\[\\] ]*\\w+\\(.*\\{");
+        int methods = 0;
+        for (int i = 0; i < lines.length; i++) {
+            Matcher found = head.matcher(lines[i]);
+            if (found.matches() && !lines[i].strip().matches("(if|for|while|switch) .*")) {
+                int end = i;
+                while (end < lines.length && !lines[end].equals(found.group(1) + "}")) {
+                    end++;
+                }
+                methods++;
+                Checks.due(lines[i].strip() + " has some sixty lines at most", end - i <= 60 ? 1 : 0, 1);
+            }
+        }
+        Checks.due("methods are seen", methods > 100 ? 1 : 0, 1);
     }
 }

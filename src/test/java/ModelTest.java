@@ -9,6 +9,10 @@ public final class ModelTest {
     private static final int MOST_CALLS = 512;
     private static final int LAST_MOVE = 440;
     private static final int LOOKS_BEHIND_A_MOVE = 3;
+    private static final int[] LIMITS = {
+        Integer.MIN_VALUE, -1, 0, 1, 4, 5, 7, 8, 9, 10, 19, 20, 32, 33, 255, 256, 399, 400, 401, 10000, 10001, 16383, 16384,
+        20479, 20480, 49152, 65535, 65536, Integer.MAX_VALUE
+    };
     private static final String[] WORDS = {"an", "b", "cee", "r", "p1", "12345678", "~"};
     private static final String[] MUST_BE_SEEN = {
         "1 fine", "1 420", "other 400", "3 fine", "3 400", "3 401", "3 420", "3 437", "3 438", "3 442", "3 486", "3 508",
@@ -129,7 +133,9 @@ public final class ModelTest {
 
     private static void move() {
         int dice = random.nextInt(100);
-        if (dice < 14) {
+        if (chance(5)) {
+            wild(anyLimit(), anyLimit(), anyLimit());
+        } else if (dice < 14) {
             setting();
         } else if (dice < 70) {
             request();
@@ -363,6 +369,36 @@ public final class ModelTest {
         int ip = anyIp();
         int port = anyPort();
         both("peer(" + relayed + ", " + ip + ", " + port + ")", x.peer(relayed, ip, port), m.peer(relayed, ip, port));
+    }
+
+    private static int anyLimit() {
+        return LIMITS[random.nextInt(LIMITS.length)];
+    }
+
+    // Any call with any arguments.
+    private static void wild(int a, int b, int c) {
+        String with = "(" + a + ", " + b + ", " + c + ")";
+        long word = (long) a << 32 | b;
+        switch (random.nextInt(18)) {
+            case 0 -> both("feed" + with, x.feed(a, b, c, b, a), m.feed(a, b, c, b, a));
+            case 1 -> both("end" + with, x.end(a), m.end(a));
+            case 2 -> both("message" + with, x.message(a, b, c, b), m.message(a, b, c, b));
+            case 3 -> number(a, b, c);
+            case 4 -> text(a, word, c);
+            case 5 -> nonce(a, word);
+            case 6 -> address(a, b, c);
+            case 7 -> both("sign" + with, x.sign(word, c), m.sign(word, c));
+            case 8 -> both("tape" + with, x.tape(a), m.tape(a));
+            case 9 -> both("alter" + with, x.alter(a, b), m.alter(a, b));
+            case 10 -> both("part" + with, x.part(a), m.part(a));
+            case 11 -> both("datagram" + with, x.datagram(a, b), m.datagram(a, b));
+            case 12 -> both("peer" + with, x.peer(a, b, c), m.peer(a, b, c));
+            case 13 -> both("octet" + with, x.octet(a), m.octet(a));
+            case 14 -> both("attribute" + with, x.attribute(a, b), m.attribute(a, b));
+            case 15 -> both("allocation" + with, x.allocation(a, b), m.allocation(a, b));
+            case 16 -> both("permission" + with, x.permission(a, b), m.permission(a, b));
+            default -> both("channel" + with, x.channel(a, b), m.channel(a, b));
+        }
     }
 
     private static void look() {
