@@ -375,11 +375,11 @@ public final class ModelTest {
         return LIMITS[random.nextInt(LIMITS.length)];
     }
 
-    // Any call with any arguments.
+    // Each call of the face, with arguments at the limits.
     private static void wild(int a, int b, int c) {
         String with = "(" + a + ", " + b + ", " + c + ")";
         long word = (long) a << 32 | b;
-        switch (random.nextInt(18)) {
+        switch (random.nextInt(26)) {
             case 0 -> both("feed" + with, x.feed(a, b, c, b, a), m.feed(a, b, c, b, a));
             case 1 -> both("end" + with, x.end(a), m.end(a));
             case 2 -> both("message" + with, x.message(a, b, c, b), m.message(a, b, c, b));
@@ -397,7 +397,18 @@ public final class ModelTest {
             case 14 -> both("attribute" + with, x.attribute(a, b), m.attribute(a, b));
             case 15 -> both("allocation" + with, x.allocation(a, b), m.allocation(a, b));
             case 16 -> both("permission" + with, x.permission(a, b), m.permission(a, b));
-            default -> both("channel" + with, x.channel(a, b), m.channel(a, b));
+            case 17 -> both("channel" + with, x.channel(a, b), m.channel(a, b));
+            case 18 -> finger();
+            case 19 -> both("user" + with, x.user(word, c), m.user(word, c));
+            case 20 -> both("realm" + with, x.realm(word), m.realm(word));
+            case 21 -> {
+                nonce = word;
+                both("fresh" + with, x.fresh(word), m.fresh(word));
+            }
+            case 22 -> both("forbid" + with, x.forbid(a, b), m.forbid(a, b));
+            case 23 -> both("tick" + with, x.tick(a), m.tick(a));
+            case 24 -> both("sent" + with, x.sent(a), m.sent(a));
+            default -> both("count" + with, x.count(a), m.count(a));
         }
     }
 
